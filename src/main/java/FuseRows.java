@@ -615,11 +615,6 @@ public final class FuseRows {
 
         // ---- keys
 
-        boolean isEntryOf(int row, int key) {
-            int mask = read(row);
-            return Mask.kindOf(mask) == ENTRY && Mask.keyOf(mask) == key;
-        }
-
         boolean isRowOf(int row, int key) {
             int mask = read(row);
             int kind = Mask.kindOf(mask);
@@ -656,7 +651,8 @@ public final class FuseRows {
         int entriesOf(int key) {
             int entries = 0;
             for (int row = 0; row < ROWS; row++) {
-                entries += isEntryOf(row, key) ? 1 : 0;
+                int mask = read(row);
+                entries += Mask.keyOf(mask) == key && Mask.kindOf(mask) == ENTRY ? 1 : 0;
             }
             return entries;
         }
@@ -765,7 +761,8 @@ public final class FuseRows {
         int markEntries(int key, int sparedRow, int charge) {
             int marks = 0;
             for (int row = 0; row < ROWS; row++) {
-                if (row != sparedRow && !isLocked(row) && isEntryOf(row, key)) {
+                int mask = read(row);
+                if (row != sparedRow && !isLocked(row) && Mask.keyOf(mask) == key && Mask.kindOf(mask) == ENTRY) {
                     blowFuse(row, Mask.MARK_FUSE, charge);
                     marks++;
                 }

@@ -245,6 +245,11 @@ public final class LooksTest {
         Check.due("18: a wrong row is left out", x.history(4, 1), 20);
         x.drop(4);
         Check.due("18: overruled ones stay", x.history(4, 0), 0);
+        FuseRows last = new FuseRows();
+        last.blow(18, 0, 3);
+        last.put(15, 63);
+        Check.due("18: the last row", last.history(15, 0), 63);
+        Check.due("17: the greatest value, in the last row", last.key(15, 4), 63);
         for (int wrong : new int[] {-1, 16, MIN, MAX}) {
             Check.noArgument("18: key " + wrong, x, () -> x.history(wrong, 0));
         }
@@ -270,6 +275,10 @@ public final class LooksTest {
         for (int what = 0; what < due.length; what++) {
             Check.due("19: count(" + what + ")", x.count(what), due[what]);
         }
+        FuseRows ends = new FuseRows();
+        ends.put(0, 0);
+        ends.put(15, 0);
+        Check.due("19: the first key and the last one", ends.count(9), 2);
         for (int wrong : new int[] {-1, 13, MIN, MAX}) {
             Check.noArgument("19: count(" + wrong + ")", x, () -> x.count(wrong));
         }

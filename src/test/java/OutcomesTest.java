@@ -109,6 +109,12 @@ public final class OutcomesTest {
         mark.put(3, 3);
         mark.blow(0, 14, 2);
         ifHeated("22: a value where there is none", mark, 6, 1, 1, 1);
+        FuseRows ends = new FuseRows();
+        ends.set(1, 2);
+        ends.put(0, 1);
+        ends.put(15, 1);
+        // 3 fuses for key 0 and value 1 (fuses 4, 10, 13), 7 for 15 and 1 (fuses 0 to 4, 10, 12)
+        ifHeated("22: the first key and the last one", ends, 6, 10, 2, 2);
         for (int wrong : new int[] {-1, 0, 10, MIN, MAX}) {
             Check.noArgument("22: degrees " + wrong, x, () -> x.ifHeated(wrong, 0));
         }
@@ -144,6 +150,14 @@ public final class OutcomesTest {
             x.pass(99);
         }
         Check.due("23: beyond the last tick", x.ifRead(1, false), 2);
+        FuseRows ends = new FuseRows();
+        ends.set(1, 2);
+        ends.put(0, 1);
+        ends.put(15, 1);
+        // row 0 (fuses 4, 10, 13) has the rests 1, 1, 1 at the tick 0, so that it fails at the tick 1;
+        // row 1 (fuses 0 to 4, 10, 12) has all rests at each tick, so that it always fails
+        Check.due("23: the last key has none", ends.ifRead(0, false), 1);
+        Check.due("23: neither has one", ends.ifRead(1, false), 2);
         for (int wrong : new int[] {-1, 100, MIN, MAX}) {
             Check.noArgument("23: ifRead(" + wrong + ", true)", x, () -> x.ifRead(wrong, true));
             Check.noArgument("23: ifRead(" + wrong + ", false)", x, () -> x.ifRead(wrong, false));
@@ -184,6 +198,8 @@ public final class OutcomesTest {
         Check.due("24: fuses of 2 are doubtful", x.worst(), 6);
         x.refresh(6);
         Check.due("24: refreshed", x.worst(), -1);
+        x.blow(0, 4, 1);
+        Check.due("24: the first row", x.worst(), 0);
     }
 
     private static void promise25SureShare() {

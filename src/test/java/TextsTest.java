@@ -13,7 +13,7 @@ public final class TextsTest {
         "|L", "l|", "lo|", "loc|", "lock|", "lock|;", "lock:|", "lock:|:", "lock:0|!", "lock:0|0", "lock:9|!",
         "lock:10|!", "lock:19|!", "lock:2|0", "lock:19|0", "lock:1|:1", "lock:1|!", "lock:9|0",
         "h|", "he|", "hea|", "heat|", "heat:|", "heat:|0", "heat:1|!", "heat:9|!", "heat:1|0", "heat:9|9", "heat:1;|",
-        "pass|", "pass:|", "pass:|0", "pass:1|!", "pass:9|!", "pass:10|!", "pass:99|!", "pass:99|9", "pass:1|:",
+        "pass|", "pass:|", "pass:|0", "pass:1|!", "pass:9|!", "pass:10|!", "pass:99|!", "pass:99|9", "pass:10|0", "pass:20|0", "pass:1|:",
         "f|", "fi|", "fix|", "fix:|", "fix|1", "fix:0|!", "fix:0|1", "fix:19|!", "fix:2|0", "fix:1|x", "fi|ng",
         "fix:1;lock:2;heat:3;pass:4;put:5:6|!", "fix:1;lock:2;heat:3;pass:4;put:5:6;|", "fix:1;|,", "fix:1|,fix:1",
         "put|s", "lock:-|1".replace("-|", "|-"), "put:+|1".replace("+|", "|+"), "pass:1|.", "heat:5|/", "heat:|:",
@@ -91,7 +91,7 @@ public final class TextsTest {
             {"put:1:5", "0123456789;"}, {"put:1:6", "0123;"}, {"put:1:7", ";"}, {"put:1:63", ";"},
             {"lock:", "0123456789"}, {"lock:0", ";"}, {"lock:1", "0123456789;"}, {"lock:2", ";"}, {"lock:19", ";"},
             {"heat:", "123456789"}, {"heat:1", ";"}, {"pass:", "123456789"}, {"pass:9", "0123456789;"},
-            {"pass:99", ";"}, {"fix:", "0123456789"}, {"fix:1", "0123456789;"}, {"fix:0", ";"}, {"fix:1;", "plhf"}};
+            {"pass:99", ";"}, {"pass:10", ";"}, {"fix:", "0123456789"}, {"fix:1", "0123456789;"}, {"fix:0", ";"}, {"fix:1;", "plhf"}};
         for (String[] row : next) {
             for (int code = 33; code <= 126; code++) {
                 FuseRows x = new FuseRows();
