@@ -596,7 +596,7 @@ public final class BoundsTest {
         return x;
     }
 
-    /** The hash by the list of the document, up to the text; more than 512 calls, so that each part has its own object. */
+    /** The hash by the list of the document, up to the text; more than 512 calls, so each part has its own object. */
     private static long listed(Supplier<FuseRows> scene) {
         FuseRows first = scene.get();
         long hash = 2683;

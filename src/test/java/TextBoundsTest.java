@@ -272,8 +272,8 @@ public final class TextBoundsTest {
     /** "up to the first one whose method would throw an exception, and clears the buffer" */
     private static void upToTheFirstRefused() {
         String[][] texts = {{"lock:3", "0"}, {"lock:3;heat:1", "0"}, {"heat:1;lock:3", "1"},
-            {"heat:1;heat:1;lock:3", "2"}, {"heat:1;lock:3;heat:1", "1"}, {"heat:1;lock:3;lock:3;heat:1", "1"}, {"lock:4;lock:4", "1"},
-            {"fix:4;lock:4;fix:4;fix:4", "2"}};
+            {"heat:1;heat:1;lock:3", "2"}, {"heat:1;lock:3;heat:1", "1"}, {"heat:1;lock:3;lock:3;heat:1", "1"},
+            {"lock:4;lock:4", "1"}, {"fix:4;lock:4;fix:4;fix:4", "2"}};
         for (String[] text : texts) {
             FuseRows x = new FuseRows();
             x.lock(3);
