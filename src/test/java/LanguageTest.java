@@ -91,7 +91,8 @@ public final class LanguageTest {
         }
         Check.holds("line " + (n + 1) + " begins a method of " + length + " lines", length <= 60);
         // The calls are told apart by their names alone.
-        Check.holds(start.group(2) + " is the name of two methods", bodies.put(start.group(2), body.toString()) == null);
+        Check.holds(start.group(2) + " is the name of two methods",
+                bodies.put(start.group(2), body.toString()) == null);
     }
 
     /** How many calls stand open at once in this method; a call of the library counts as one. */
